@@ -468,8 +468,10 @@ public final class Goalmouth {
         if (isFixtureLeft() || book.isFull()) {
             throw new IllegalStateException("a fixture is left");
         }
-        Club rising = clubToRise();
-        Club falling = rising == null ? null : lastOfUpperDivision();
+        table.draw(1, clubs, fixtures);
+        Club rising = table.firstToRise();
+        table.draw(0, clubs, fixtures);
+        Club falling = rising == null ? null : table.last();
         if (rising != null) {
             rising.division = 0;
         }
@@ -488,23 +490,6 @@ public final class Goalmouth {
             }
         }
         return false;
-    }
-
-    private Club clubToRise() {
-        table.draw(1, clubs, fixtures);
-        for (int i = 0; i < table.rows.size(); i++) {
-            Club club = table.rows.get(i);
-            if (!club.isStruck && club.grade >= GRADE_TO_RISE) {
-                return club;
-            }
-        }
-        return null;
-    }
-
-    private Club lastOfUpperDivision() {
-        table.draw(0, clubs, fixtures);
-        int size = table.rows.size();
-        return size > 0 ? table.rows.get(size - 1) : null;
     }
 
     private void clearSeason() {
@@ -798,9 +783,8 @@ public final class Goalmouth {
             return side(!isHome).isPunished() ? GOALS_BY_RULE : side(isHome).goals;
         }
 
-        int pointsFor(boolean isHome) {
-            int goals = goalsFor(isHome);
-            int against = goalsFor(!isHome);
+        /** The points of a side with these goals as they count; nobody drew who is punished. */
+        int pointsFor(int goals, int against) {
             if (goals > against) {
                 return POINTS_WON;
             }
@@ -819,7 +803,8 @@ public final class Goalmouth {
         }
 
         private boolean isLostIfGuilty(boolean isHome) {
-            return !side(isHome).isGuilty || goalsFor(isHome) == 0 && pointsFor(isHome) == 0;
+            int goals = goalsFor(isHome);
+            return !side(isHome).isGuilty || goals == 0 && pointsFor(goals, goalsFor(!isHome)) == 0;
         }
     }
 
@@ -1084,6 +1069,20 @@ public final class Goalmouth {
             addRows(division, clubs, true);
         }
 
+        Club firstToRise() {
+            for (int i = 0; i < rows.size(); i++) {
+                Club club = rows.get(i);
+                if (!club.isStruck && club.grade >= GRADE_TO_RISE) {
+                    return club;
+                }
+            }
+            return null;
+        }
+
+        Club last() {
+            return rows.isEmpty() ? null : rows.get(rows.size() - 1);
+        }
+
         private void addRows(int division, ArrayList<Club> clubs, boolean areStruck) {
             for (int i = 0; i < clubs.size(); i++) {
                 Club club = clubs.get(i);
@@ -1104,8 +1103,10 @@ public final class Goalmouth {
                 Club home = match.home.club;
                 Club away = match.away.club;
                 if (match.isOver() && home.isInGroup && away.isInGroup) {
-                    home.countMatch(match.pointsFor(true), match.goalsFor(true), match.goalsFor(false));
-                    away.countMatch(match.pointsFor(false), match.goalsFor(false), match.goalsFor(true));
+                    int goals = match.goalsFor(true);
+                    int against = match.goalsFor(false);
+                    home.countMatch(match.pointsFor(goals, against), goals, against);
+                    away.countMatch(match.pointsFor(against, goals), against, goals);
                 }
             }
             for (int i = from; i < to; i++) {
