@@ -10,13 +10,24 @@ final class Due {
     private Due() {
     }
 
-    /** What a call answers, or the class of what it throws. */
+    /** What a call answers, or the class of what it throws; what the machine throws is told as a text and never due. */
     static Object outcome(Call call) {
         try {
             return call.answer();
         } catch (RuntimeException thrown) {
-            return thrown.getClass();
+            return isThrownByHand(thrown) ? thrown.getClass() : "the machine's " + thrown;
         }
+    }
+
+    /** Whether a throw statement of the program or of the Model threw it, not the machine or its library. */
+    static boolean isThrownByHand(Throwable thrown) {
+        StackTraceElement[] trace = thrown.getStackTrace();
+        boolean isOurs = trace.length > 0
+            && (trace[0].getClassName().startsWith("Goalmouth") || trace[0].getClassName().startsWith("Model"));
+        // The machine's own exceptions of these classes are of finer ones, or bear a message of its making.
+        return isOurs && thrown.getClass() != ArrayIndexOutOfBoundsException.class
+            && thrown.getClass() != NullPointerException.class && thrown.getClass() != ClassCastException.class
+            && !"/ by zero".equals(thrown.getMessage());
     }
 
     static void is(String what, Object want, Call call) {
